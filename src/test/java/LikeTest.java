@@ -26,6 +26,24 @@ public final class LikeTest {
         likes("", "mmxyz=mzo", "mxmyz=mox", "00110011");
         likes("", "mmxyx=o", "mxmyx=o", "00110011");
         likes("", "mmxxy=o", "mxmyx=o", "00000000");
+        for (String other : new String[] {"mmxzy=x", "mmyxz=y", "mmyzx=y", "mmzxy=z", "mmzyx=z"}) {
+            likes("", "mmxyz=x", other, "11111111");
+        }
+        likes("", "mmxyz=x", "mmxyz=y", "00110011");
+        likes("", "mmxyz=x", "mmxyz=z", "00000000");
+        likes("", "mmxymzo=mxo", "mmozmxy=mxo", "00110011");
+        likes("", "mmxymzo=mxo", "mmzomyx=mxo", "00110011");
+        likes("", "mmxymzo=mxo", "mmozmyx=mzo", "00000000");
+        likes("", "mmxomxy=mxy", "mmyxmxo=mxy", "00110011");
+        likes("", "mmxomxy=mxy", "mmyxmyo=mxy", "00110011");
+        likes("", "mmxomxy=mxo", "mmyxmyo=mxo", "00000000");
+        likes("", "mmxmyzmxmzy=x", "mmmzxymymzy=y", "00000000");
+        likes("", "mmxmyzmxmzy=x", "mmmzxymymxz=y", "00110011");
+        likes("word a 1 mxo;", "maxmyo=x", "mmyoax=x", "00110011");
+        likes("word a 1 mxo;", "maxx=o", "mxay=o", "00000000");
+        likes("word a 1 mxo;", "maxx=o", "myay=o", "00110011");
+        likes("word a 1 mxo;", "mmxazay=x", "maymazx=x", "00110011");
+        likes("word a 2 mxo;", "mazxy=x", "myazx=x", "00110011");
         likes("word a 1 mxx;", "ax=x", "myy=y", "00001111");
         likes("word a 1 mxo;", "x=ax", "moy=y", "00000001");
         likes("word a 2 mxy;", "axy=x", "axy=y", "00000011");
@@ -84,6 +102,8 @@ public final class LikeTest {
         Due.is("399 put ins, c last", z.like(0, 4, 4), 1);
         Due.is("401 put ins", z.like(0, 5, 4), 0);
         Due.is("many put ins", z.like(0, 6, 4), 0);
+        Due.is("many put ins, itself", z.like(6, 6, 4), 0);
+        Due.is("many put ins, itself, words stay", z.like(6, 6, 3), 1);
         Due.tell(z, "wish caaaaaaaaaaaaaaaaaao=o;wish o=caaaaaaaaaaaaaaaaaao;");
         Due.is("each term has its own 400", z.like(7, 8, 5), 1);
         ShownLibrary v = Due.with("word a 1 x;word b 1 aaaaaaaaaaaaaaaaaaax;word c 1 bbbbbbbbbbbbbbbbbbbx;word d 1 cax;"
@@ -119,6 +139,7 @@ public final class LikeTest {
         x.prove(1);
         x.step(0, 4, 2);
         Due.is("show 1", x.show(), 1);
+        Due.is("what leans on 2", x.leans(2, 2), 1 + 2 + 16);
         Due.is("how many for 0", x.teach(0, 0, 0), 4);
         int[] due = {2, 3, 4, 0};
         for (int i = 0; i < 4; i++) {

@@ -145,7 +145,7 @@ public final class ProofsTest {
 
     /** 200 steps of all proofs; what is shown anew counts again. */
     private static void twoHundred() {
-        ShownLibrary x = Due.with("word a 1 x;taken mxy=myx;wish ax=ax;wish amxy=myx;wish mxy=mxy;");
+        ShownLibrary x = Due.with("word a 1 x;taken mxy=myx;wish ax=ax;wish amxy=myx;wish mxy=mxy;wish mxo=mox;");
         for (int round = 0; round < 5; round++) {
             Due.is("prove", x.prove(2), 4);
             for (int i = 0; i < 19; i++) {
@@ -175,6 +175,7 @@ public final class ProofsTest {
         Due.is("show() of two more", x.show(), Due.FULL);
         Due.is("it stays in hand", x.proof(1), 2);
         Due.is("it is wished still", x.of(3, 0), 1);
+        Due.is("take() of one more", x.take(4, 1, 3), Due.FULL);
         Due.is("take() of more", x.take(2, 8, 20), Due.FULL);
         Due.is("and broken still", x.of(2, 0), 3);
         Due.sheet(x, 0, 0, 0, 0, 0, 0, 0, 0);
@@ -247,6 +248,15 @@ public final class ProofsTest {
         Due.is("leans(7, 0)", x.leans(7, 0), Due.BAD);
     }
 
+    private static void leaningOnTheFirst() {
+        ShownLibrary x = Due.with("wish mox=x;taken mxo=x;taken mxy=myx;wish momox=x;");
+        Due.is("0 by 2 and 1", x.take(0, 2, 9), 2);
+        Due.is("3 by 0", x.take(3, 2, 9), 2);
+        Due.is("leans(3, 0)", x.leans(3, 0), 1 + 2 + 4);
+        Due.is("leans(1, 2)", x.leans(1, 2), 1 + 8);
+        Due.is("leans(0, 2)", x.leans(0, 2), 8);
+    }
+
     public static void main(String[] args) {
         provesOneAtATime();
         refusals();
@@ -258,6 +268,7 @@ public final class ProofsTest {
         twoHundred();
         stepsTold();
         leaning();
+        leaningOnTheFirst();
         Due.finish();
     }
 }

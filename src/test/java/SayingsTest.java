@@ -119,12 +119,38 @@ public final class SayingsTest {
         Due.is("as(0, 1000)", x.as(0, 1000), Due.BAD);
     }
 
+    /** As many turns as 512 calls can bring: 24 are shown and broken on each of eight days. */
+    private static void manyTurns() {
+        ShownLibrary x = Due.with("word a 1 x;");
+        for (int i = 0; i < 4; i++) {
+            Due.tell(x, "wish ax=x;wish ax=x;wish ax=x;wish ax=x;wish ax=x;wish ax=x;");
+        }
+        for (int day = 0; day < 8; day++) {
+            x.day(2 * day);
+            for (int e = 0; e < 24; e++) {
+                Due.is("take " + e, x.take(e, 1, 3), 1);
+            }
+            x.day(2 * day + 1);
+            x.feed(0x6f20202020202020L);
+            Due.is("all break", x.change(0), 24);
+            x.feed(0x7820202020202020L);
+            Due.is("none comes back", x.change(0), 0);
+        }
+        for (int e = 0; e < 24; e++) {
+            for (int i = 0; i < 6; i++) {
+                int day = i == 0 ? 15 : (5 * e + i) % 16;
+                Due.is("as(" + e + ", " + day + ")", x.as(e, day), day % 2 == 0 ? 2 : 3);
+            }
+        }
+    }
+
     public static void main(String[] args) {
         hands();
         days();
         ofAndSign();
         words();
         asOnDays();
+        manyTurns();
         Due.finish();
     }
 }

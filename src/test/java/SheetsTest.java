@@ -94,6 +94,18 @@ public final class SheetsTest {
         Due.is("of(2, 0)", x.of(2, 0), 1);
     }
 
+    /** A kind that is none goes nowhere, whatever the rest would say. */
+    private static void noKind() {
+        ShownLibrary x = Due.with("word a 1 mxx;wish mxx=ax;wish ax=mxx;");
+        for (int kind : new int[] {-1, 4, 127, -128}) {
+            Due.sheet(x, 0, 0, kind, 0, 0);
+            Due.is("kind " + kind, x.read(0, 0, 0, 0, 1), -100);
+            Due.is("kind " + kind + " of 1", x.read(1, 0, 0, 0, 1), -100);
+        }
+        Due.sheet(x, 0, 0, 2, 0, 0, 3, 0, 0, 5, 0, 0);
+        Due.is("the third", x.read(1, 0, 0, 0, 3), -102);
+    }
+
     private static void twentyStepsOfASheet() {
         ShownLibrary x = Due.with("taken mxy=myx;wish mxy=mxy;");
         Due.is("60 cells", x.sheet(3, 0, 60), 1);
@@ -126,6 +138,7 @@ public final class SheetsTest {
         sheetsAndCells();
         reading();
         lowestBits();
+        noKind();
         twentyStepsOfASheet();
         counts();
         Due.finish();

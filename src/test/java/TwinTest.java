@@ -108,10 +108,41 @@ public final class TwinTest {
         return t;
     }
 
+    /** A saying that is like another one in some way, or nearly so. */
+    private String varied(TwinLibrary.Said s) {
+        String[] sides = {s.left, s.right};
+        int how = pick(16);
+        String names = new String[] {"xyz", "xzy", "yxz", "yzx", "zxy", "zyx", "xxz"}[pick(7)];
+        for (int i = 0; i < 2; i++) {
+            String t = (how & 1) != 0 ? mated(sides[i]) : sides[i];
+            for (int p = 0; p < t.length() && (how & 2) != 0; p++) {
+                if (twin.go(t, 2, 0, p, -1) instanceof String put && pick(2) == 0) {
+                    t = put;
+                }
+            }
+            StringBuilder b = new StringBuilder();
+            for (char c : t.toCharArray()) {
+                b.append(TwinLibrary.isName(c) ? names.charAt(c - 'x') : c);
+            }
+            sides[i] = b.toString();
+        }
+        return (how & 4) != 0 ? sides[1] + "=" + sides[0] : sides[0] + "=" + sides[1];
+    }
+
+    /** A term with the mates of some of its m changed. */
+    private String mated(String t) {
+        List<String> parts = new ArrayList<>(twin.parts(t));
+        parts.replaceAll(this::mated);
+        if (t.charAt(0) == 'm' && pick(2) == 0) {
+            parts.add(parts.remove(0));
+        }
+        return t.charAt(0) + String.join("", parts);
+    }
+
     private String line() {
         int many = twin.words.size();
         String names = pick(3) == 0 ? "xyzo" : "xyo";
-        switch (pick(8)) {
+        switch (pick(9)) {
             case 0: case 1: {
                 int need = 1 + pick(2);
                 return "word " + (char) ('a' + (rarely() ? pick(5) : many % 4)) + " " + need + " " + meaning(need, many) + ";";
@@ -122,10 +153,8 @@ public final class TwinTest {
             }
             case 4:
                 return "taken " + term(size(), names, many) + "=" + term(1 + pick(5), names, many) + ";";
-            case 5: {
-                String left = twin.said.isEmpty() ? "mxy" : twin.said.get(pick(twin.said.size())).left;
-                return "wish " + left.replace('x', 'w').replace('y', 'x').replace('w', 'y') + "=" + walked(left) + " ;";
-            }
+            case 5: case 6:
+                return twin.said.isEmpty() ? "wish mxy=myx;" : "wish " + varied(twin.said.get(pick(twin.said.size()))) + ";";
             default: {
                 String left = term(size(), names, many);
                 return "wish " + left + "=" + walked(left) + ";";
@@ -302,7 +331,7 @@ public final class TwinTest {
             case 8: { int n = number(1, 3), w = number(0, n == 1 ? 0 : n == 2 ? 31 : 59048); same("holds(" + e + ", " + n + ", " + w + ")", lib.holds(e, n, w), twin.holds(e, n, w)); break; }
             case 9: { int n = number(1, 2), w = number(0, 1); same("worlds(" + n + ", " + w + ")", lib.worlds(n, w), twin.worlds(n, w)); break; }
             case 10: { int n = number(1, 2); same("denied(" + e + ", " + n + ")", lib.denied(e, n), twin.denied(e, n)); break; }
-            case 11: case 12: askLike(e, f, number(0, 7), number(0, 1)); break;
+            case 11: case 12: askLike(e, f, number(0, 7), number(0, 1)); askLike(f, saying(), 2 + pick(6), pick(2)); break;
             case 13: { int known = pick(2) == 0 ? 0 : number(0, (1 << twin.said.size()) - 1), w = pick(3) == 0 ? number(0, 0) : number(8, 34); same("teach(" + e + ", " + known + ", " + w + ")", lib.teach(e, known, w), twin.teach(e, known, w)); break; }
             case 14: { int h = number(0, 9); same("hand(" + h + ")", lib.hand(h), twin.hand(h)); break; }
             default: { int w = number(0, 10); same("count(" + w + ")", lib.count(w), twin.count(w)); break; }
