@@ -1,8 +1,17 @@
+import java.io.IOException;
+import java.nio.file.Files;
+import java.nio.file.Path;
+import java.util.ArrayList;
+import java.util.List;
+
 /** What the tests by hand share: answers that are due, and texts typed on the tape. */
 final class Due {
     static final int BAD = -1, STATE = -2, FULL = -3, NONE = -4, SPENT = -6;
+    static final int MIN = Integer.MIN_VALUE, MAX = Integer.MAX_VALUE;
+    private static final List<String> QUOTES = new ArrayList<>();
     private static int wrong = 0;
     private static int asked = 0;
+    private static String sentence = "";
 
     private Due() { }
 
@@ -10,7 +19,31 @@ final class Due {
         asked++;
         if (got != want) {
             wrong++;
-            System.out.println(call + " answered " + got + ", due is " + want);
+            System.out.println(call + " answered " + got + ", due is " + want + sentence);
+        }
+    }
+
+    /** Names the sentence of the document that the answers from here on stand for. */
+    static void says(String quote) {
+        QUOTES.add(quote);
+        sentence = "; the document says: " + quote;
+    }
+
+    /** Tells of sentences that the document does not have any more; the tests of these want reading anew. */
+    private static void lookUpQuotes() {
+        Path document = Path.of("../shared/DOC.md");
+        if (QUOTES.isEmpty() || !Files.isReadable(document)) {
+            return;
+        }
+        try {
+            String text = Files.readString(document).replaceAll("\\s+", " ");
+            for (String quote : QUOTES) {
+                if (!text.contains(quote)) {
+                    System.out.println("not in the document: " + quote);
+                }
+            }
+        } catch (IOException e) {
+            System.out.println("the document can not be read: " + e);
         }
     }
 
@@ -55,6 +88,7 @@ final class Due {
     }
 
     static void finish() {
+        lookUpQuotes();
         System.out.println(wrong == 0 ? asked + " answers are as due" : wrong + " of " + asked + " answers are not as due");
         if (wrong != 0) {
             System.exit(1);
