@@ -79,6 +79,48 @@ final class Due {
         return lib;
     }
 
+    /** Compares two rows of letters. */
+    static void reads(String call, String got, String want) {
+        asked++;
+        if (!got.equals(want)) {
+            wrong++;
+            System.out.println(call + " is " + got + ", due is " + want + sentence);
+        }
+    }
+
+    /** The TERM that THE PROOF in hand has come to; "" when there is none in hand. */
+    static String inHand(ShownLibrary lib) {
+        StringBuilder b = new StringBuilder();
+        for (int i = 0; i < Math.max(0, lib.proof(2)); i++) {
+            b.append((char) ('a' + lib.proof(10 + i)));
+        }
+        return b.toString();
+    }
+
+    /** A STEP that goes, and the TERM that comes of it. */
+    static void goes(ShownLibrary lib, int kind, int which, int place, String want) {
+        String call = "step(" + kind + ", " + which + ", " + place + ") of " + inHand(lib);
+        is(call, lib.step(kind, which, place), want.length());
+        reads(call, inHand(lib), want);
+    }
+
+    /** A STEP that does not go: TERM and STEPS stay. */
+    static void stays(ShownLibrary lib, int kind, int which, int place, int want) {
+        String term = inHand(lib);
+        int steps = lib.proof(1);
+        String call = "step(" + kind + ", " + which + ", " + place + ") of " + term;
+        is(call, lib.step(kind, which, place), want);
+        reads(call, inHand(lib), term);
+        is("STEPS behind " + call, lib.proof(1), steps);
+    }
+
+    /** A library of a text, with a proof in hand. */
+    static ShownLibrary proving(String text, int e) {
+        ShownLibrary lib = with(text);
+        lib.prove(e);
+        return lib;
+    }
+
     /** Lays a row of cells on a new sheet. */
     static void sheet(ShownLibrary lib, int k, int lane, int... cells) {
         lib.sheet(k, lane, cells.length);
