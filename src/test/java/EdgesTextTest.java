@@ -302,6 +302,18 @@ public final class EdgesTextTest {
             faulty(row + " a 1 x;", 2, 0);
         }
         faulty("wish x=o;o", 2, 9);
+        // one letter is another one, at each place
+        for (String line : new String[] {"word b 1 x;", "taken x=o;", "wish x=o;"}) {
+            good(line, 1);
+            for (int i = 0; i < line.indexOf(' '); i++) {
+                for (int by : new int[] {-1, 1}) {
+                    String other = line.substring(0, i) + (char) (line.charAt(i) + by) + line.substring(i + 1);
+                    faulty(other, 2, 0);
+                    faulty("wish x=o; " + other, 2, 10);
+                }
+                faulty(line.substring(0, i) + line.substring(i + 1), 2, 0);
+            }
+        }
     }
 
     private static void fault2BehindWord() {
