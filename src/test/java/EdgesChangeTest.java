@@ -152,6 +152,27 @@ public final class EdgesChangeTest {
         }
     }
 
+    /** SAYINGS and WORDS still come behind 40 turns, and are what they are told to be. */
+    private static void manyTurnsAhead() {
+        Due.says("SAYINGS (24) are numbered as they come");
+        ShownLibrary x = Due.with("word a 1 x;wish ax=x;wish ao=o;");
+        for (int i = 0; i < 10; i++) {
+            Due.is("take(0, ..)", x.take(0, 1, 3), 1);
+            Due.is("take(1, ..)", x.take(1, 1, 3), 1);
+            Due.is("both break", Due.change(x, 0, "mxx"), 2);
+            Due.change(x, 0, "x");
+        }
+        for (int e = 2; e < 24; e++) {
+            Due.is("saying " + e, Due.tell(x, e % 2 == 0 ? "taken x=ax;" : "wish x=y;"), 1);
+            Due.is("of(" + e + ", 0)", x.of(e, 0), e % 2);
+            Due.is("of(" + e + ", 3)", x.of(e, 3), 1);
+            Due.is("as(" + e + ", 0)", x.as(e, 0), e % 2);
+        }
+        Due.is("count(0)", x.count(0), 24);
+        Due.is("a word", Due.tell(x, "word b 2 mxy;"), 1);
+        Due.is("word(1, 2)", x.word(1, 2), 3);
+    }
+
     // ---- the call
 
     private static ShownLibrary inHand() {
@@ -282,6 +303,7 @@ public final class EdgesChangeTest {
         asManyAsItsSteps();
         noStepsNeverBreak();
         onTheDay();
+        manyTurnsAhead();
         aTermAsWanted();
         itsFaults();
         badLeavesTheTape();
